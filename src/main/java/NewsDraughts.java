@@ -112,7 +112,7 @@ public final class NewsDraughts {
         undone.push(now);
         for (int i = 0; i < parish.newsTold(); i++) {
             draught.pick(i);
-            now.setWhoKnows(i, draught.behindSteps(n));
+            now.setWhoKnows(i, draught.along(draught.whoKnows(), 0, n));
         }
         now.goOn(n);
         return now.stepsGone();
@@ -168,7 +168,8 @@ public final class NewsDraughts {
     public int openings(int n, int steps, int know, int not, int k) {
         if (!parish.hasNews(n) || !within(steps, 1, 12) || !within(k, 0, 2)) return BAD;
         if (!parish.hasHouses(know) || !parish.hasHouses(not) || (know & not) != 0) return BAD;
-        ways.ask(n, steps, know, not);
+        ways.pose(n, steps, know, not);
+        if (!ways.isFoundByNone() && !ways.isFoundByOne()) ways.findByTwo();
         return ways.answer(k);
     }
 
@@ -268,7 +269,7 @@ public final class NewsDraughts {
     }
 
     private static int bit(int i) {
-        return within(i, 0, MOST_HOUSES - 1) ? 1 << i : 0;
+        return i >= 0 && i < MOST_HOUSES ? 1 << i : 0;
     }
 
     private static boolean holds(int set, int i) {
@@ -334,17 +335,11 @@ public final class NewsDraughts {
             place = 0;
             for (int items = 0; items < MOST_LETTERS && place < sheet.length(); items++) {
                 int start = place;
-                int letter = nextLetter();
+                place++;
                 int told = readNumbers();
-                if (told == 0 || !parish.take(letter, told, numbers)) return start;
+                if (told == 0 || !parish.take(sheet.letterAt(start), told, numbers)) return start;
             }
             return NONE;
-        }
-
-        private int nextLetter() {
-            int letter = sheet.letterAt(place);
-            place++;
-            return letter;
         }
 
         /** How many numbers stand ahead of the ; or 0 if they are not written as they have to be. */
@@ -353,7 +348,8 @@ public final class NewsDraughts {
                 int number = readNumber();
                 if (number < 0) return 0;
                 put(numbers, i, number);
-                int letter = nextLetter();
+                int letter = sheet.letterAt(place);
+                place++;
                 if (letter == ';') return i + 1;
                 if (letter != ',') return 0;
             }
@@ -361,10 +357,13 @@ public final class NewsDraughts {
         }
 
         private int readNumber() {
-            if (!isFigure(sheet.letterAt(place))) return -1;
-            int number = nextLetter() - '0';
-            if (!isFigure(sheet.letterAt(place))) return number;
-            return number * 10 + nextLetter() - '0';
+            int first = sheet.letterAt(place);
+            if (!isFigure(first)) return -1;
+            place++;
+            int second = sheet.letterAt(place);
+            if (!isFigure(second)) return first - '0';
+            place++;
+            return 10 * (first - '0') + second - '0';
         }
 
         private static boolean isFigure(int letter) {
@@ -372,7 +371,7 @@ public final class NewsDraughts {
         }
     }
 
-    /** What a text tells: houses, news and winds, and where the winds blow to. */
+    /** What a text tells: houses, news and winds. */
     private static final class Parish {
         private final int[] kinds = new int[MOST_HOUSES];
         private final int[] sashes = new int[MOST_HOUSES];
@@ -451,6 +450,20 @@ public final class NewsDraughts {
             return rows;
         }
 
+        int columns() {
+            return columns;
+        }
+
+        /** Nothing is blown left out of these houses. */
+        int firstColumn() {
+            return firstColumn;
+        }
+
+        /** Nothing is blown right out of these houses. */
+        int lastColumn() {
+            return lastColumn;
+        }
+
         int houses() {
             return rows * columns;
         }
@@ -503,34 +516,6 @@ public final class NewsDraughts {
         int windOf(int step) {
             int turn = windsInTurn();
             return turn > 0 ? at(winds, Math.floorMod(step, turn)) : ALL_SIDES;
-        }
-
-        /** The houses beside these toward which the wind blows. */
-        int blown(int set, int wind) {
-            switch (wind) {
-                case ALL_SIDES: return above(set) | below(set) | toRight(set) | toLeft(set);
-                case UP: return above(set);
-                case RIGHT: return toRight(set);
-                case DOWN: return below(set);
-                case LEFT: return toLeft(set);
-                default: return 0;
-            }
-        }
-
-        private int above(int set) {
-            return set >>> columns;
-        }
-
-        private int below(int set) {
-            return (set << columns) & allHouses();
-        }
-
-        private int toRight(int set) {
-            return (set & ~lastColumn) << 1;
-        }
-
-        private int toLeft(int set) {
-            return (set & ~firstColumn) >>> 1;
         }
     }
 
@@ -646,12 +631,15 @@ public final class NewsDraughts {
         private final Parish parish;
         private final Standing now;
         private final int[] sashes = new int[MOST_HOUSES];
+        private final int[] needed = new int[MOST_HOUSES];
         private int whoKnows = 0;
-        private int weight = 0;
         private int gossips = 0;
         private int talkers = 0;
         private int openToGossips = 0;
         private int openToTalkers = 0;
+        private int columns = 0;
+        private int firstColumn = 0;
+        private int lastColumn = 0;
 
         Draught(Parish parish, Standing now) {
             this.parish = parish;
@@ -662,24 +650,41 @@ public final class NewsDraughts {
         void pick(int n) {
             boolean debt = parish.newsKindOf(n) == DEBT;
             whoKnows = now.whoKnows(n);
-            weight = parish.weightOf(n);
             gossips = 0;
             talkers = 0;
+            openToGossips = 0;
+            openToTalkers = 0;
+            columns = parish.columns();
+            firstColumn = parish.firstColumn();
+            lastColumn = parish.lastColumn();
             for (int h = 0; h < parish.houses(); h++) {
                 int kind = parish.kindOf(h);
                 boolean silent = kind == HUMMING || kind == PROUD && debt;
                 if (kind == GOSSIP) gossips |= bit(h);
                 else if (!silent) talkers |= bit(h);
+                put(needed, h, kind == DEAF ? parish.weightOf(n) + 1 : parish.weightOf(n));
                 reopen(h, now.sashOf(h));
             }
         }
 
         void reopen(int h, int o) {
             put(sashes, h, o);
-            int needed = parish.kindOf(h) == DEAF ? weight + 1 : weight;
-            boolean shut = o < 1;
-            openToTalkers = !shut && o >= needed ? openToTalkers | bit(h) : openToTalkers & ~bit(h);
-            openToGossips = !shut && o >= needed - 1 ? openToGossips | bit(h) : openToGossips & ~bit(h);
+            openToTalkers = letsInFromTalkers(h, o) ? openToTalkers | bit(h) : openToTalkers & ~bit(h);
+            openToGossips = letsInFromGossips(h, o) ? openToGossips | bit(h) : openToGossips & ~bit(h);
+        }
+
+        /** Whether a width is another thing for the picked news than the one below it. */
+        boolean isAnother(int h, int o) {
+            return o < 1 || letsInFromTalkers(h, o) != letsInFromTalkers(h, o - 1)
+                || letsInFromGossips(h, o) != letsInFromGossips(h, o - 1);
+        }
+
+        private boolean letsInFromTalkers(int h, int o) {
+            return o > 0 && o >= at(needed, h);
+        }
+
+        private boolean letsInFromGossips(int h, int o) {
+            return o > 0 && o >= at(needed, h) - 1;
         }
 
         void stuff(int set) {
@@ -696,25 +701,48 @@ public final class NewsDraughts {
             return whoKnows;
         }
 
-        int behindSteps(int steps) {
-            return along(whoKnows, 0, steps);
-        }
-
         boolean hears(int h, int steps) {
-            return holds(behindSteps(steps), h);
+            return holds(along(whoKnows, 0, steps), h);
         }
 
-        /** Who knows behind the steps from the one to the other, counted from now on. */
+        /**
+         * Who knows behind the steps from the one to the other, counted from now on.
+         * If nobody hears while all the winds blow once, nobody does later on.
+         */
         int along(int know, int from, int to) {
+            int turn = parish.windsInTurn();
             int set = know;
-            for (int s = from; s < to; s++) set = onward(set, parish.windOf(now.stepsGone() + s));
+            int still = 0;
+            for (int s = from; s < to && still < turn; s++) {
+                int next = onward(set, parish.windOf(now.stepsGone() + s));
+                still = next == set ? still + 1 : 0;
+                set = next;
+            }
             return set;
         }
 
+        /** What is blown up or down out of the parish comes to no house, as none there is open. */
         int onward(int know, int wind) {
-            int byGossips = parish.blown(know & gossips, wind) & openToGossips;
-            int byTalkers = parish.blown(know & talkers, wind) & openToTalkers;
-            return know | byGossips | byTalkers;
+            int byGossip = know & gossips;
+            int byTalker = know & talkers;
+            int next = know;
+            if (wind == UP || wind == ALL_SIDES) {
+                next |= (byGossip >>> columns) & openToGossips;
+                next |= (byTalker >>> columns) & openToTalkers;
+            }
+            if (wind == RIGHT || wind == ALL_SIDES) {
+                next |= ((byGossip & ~lastColumn) << 1) & openToGossips;
+                next |= ((byTalker & ~lastColumn) << 1) & openToTalkers;
+            }
+            if (wind == DOWN || wind == ALL_SIDES) {
+                next |= (byGossip << columns) & openToGossips;
+                next |= (byTalker << columns) & openToTalkers;
+            }
+            if (wind == LEFT || wind == ALL_SIDES) {
+                next |= ((byGossip & ~firstColumn) >>> 1) & openToGossips;
+                next |= ((byTalker & ~firstColumn) >>> 1) & openToTalkers;
+            }
+            return next;
         }
     }
 
@@ -764,9 +792,11 @@ public final class NewsDraughts {
 
         /** Sets come in the order of their bits, and only fewer houses are better: so the lowest stays. */
         int fewestStuffed(int h, int n) {
+            if (holds(now.whoKnows(n), h)) return NONE;
             int best = NONE;
             int fewest = MOST_STUFFED + 1;
-            for (int set = 0; set <= parish.allHouses(); set++) {
+            int all = parish.allHouses();
+            for (int set = 0; set <= all; set++) {
                 if (Integer.bitCount(set) >= fewest || holds(set, h)) continue;
                 draught.pick(n);
                 draught.stuff(set);
@@ -818,7 +848,10 @@ public final class NewsDraughts {
         }
     }
 
-    /** The fewest houses opened now, by which those told know and others do not. */
+    /**
+     * The fewest houses opened now, by which those told know and others do not.
+     * Widths that are no other thing than the one below are left out, for that one comes first.
+     */
     private static final class Openings {
         private final Parish parish;
         private final Standing now;
@@ -836,14 +869,12 @@ public final class NewsDraughts {
             this.draught = draught;
         }
 
-        void ask(int n, int inSteps, int know, int not) {
+        void pose(int n, int inSteps, int know, int not) {
             steps = inSteps;
             shallKnow = know;
             shallNot = not;
             found(NONE, NONE, NONE);
             draught.pick(n);
-            if (isSo()) found(0, NONE, NONE);
-            else if (!findOne()) findTwo();
         }
 
         int answer(int k) {
@@ -857,12 +888,17 @@ public final class NewsDraughts {
             second = other;
         }
 
-        private boolean isSo() {
-            int know = draught.behindSteps(steps);
+        private boolean isSo(int know) {
             return (know & shallKnow) == shallKnow && (know & shallNot) == 0;
         }
 
-        private boolean findOne() {
+        boolean isFoundByNone() {
+            if (!isSo(draught.along(draught.whoKnows(), 0, steps))) return false;
+            found(0, NONE, NONE);
+            return true;
+        }
+
+        boolean isFoundByOne() {
             for (int h = 0; h < parish.houses(); h++) {
                 int o = fittingWidth(h);
                 if (o != NONE) {
@@ -873,17 +909,18 @@ public final class NewsDraughts {
             return false;
         }
 
-        private void findTwo() {
+        void findByTwo() {
             for (int low = 0; low < parish.houses(); low++) {
                 for (int o = 0; o <= WIDEST; o++) {
+                    if (!draught.isAnother(low, o)) continue;
                     draught.reopen(low, o);
-                    if (findHigher(low, o)) return;
+                    if (isFoundWith(low, o)) return;
                 }
                 draught.reopen(low, now.sashOf(low));
             }
         }
 
-        private boolean findHigher(int low, int o) {
+        private boolean isFoundWith(int low, int o) {
             for (int high = low + 1; high < parish.houses(); high++) {
                 int width = fittingWidth(high);
                 if (width != NONE) {
@@ -898,8 +935,9 @@ public final class NewsDraughts {
         private int fittingWidth(int h) {
             int fitting = NONE;
             for (int o = 0; o <= WIDEST && fitting == NONE; o++) {
+                if (!draught.isAnother(h, o)) continue;
                 draught.reopen(h, o);
-                if (isSo()) fitting = o;
+                if (isSo(draught.along(draught.whoKnows(), 0, steps))) fitting = o;
             }
             draught.reopen(h, now.sashOf(h));
             return fitting;

@@ -176,6 +176,7 @@ public final class PromisesTest {
         faultIs("g3,004;", 0);
         faultIs("w001;", 0);
         faultIs("w1,1;", 0);
+        faultIs("w1,1,1,1;", 0);
         faultIs("h1,1;", 0);
         faultIs("h1;", 0);
         faultIs("h1,1,1,1;", 0);
@@ -282,6 +283,26 @@ public final class PromisesTest {
         due("not told sash", x.house(3, 1), 2);
         due("first news begin", x.news(0, 2), 7);
         due("second news begin", x.news(1, 2), 0);
+        NewsDraughts other = laid("g1,2;h0,1,2;h1,3,6;n0,3,0;n0,1,1;w0;w2;");
+        other.step(1);
+        due("a gossip lets out", whoKnows(other, 0), 3);
+        rewrite(other, "g1,2;n0,3,0;n0,1,1;");
+        due("other kinds", other.lay(), 2);
+        other.step(1);
+        due("a gossip no more", whoKnows(other, 0), 1);
+        due("humming no more", whoKnows(other, 1), 3);
+        rewrite(other, "g1,2;h0,3,2;n0,1,0;");
+        other.lay();
+        other.step(1);
+        due("plain no more", whoKnows(other, 0), 1);
+        NewsDraughts smaller = laid("g4,4;n0,1,0;");
+        smaller.step(1);
+        rewrite(smaller, "g2,2;h2,1,2;n0,1,3;n0,1,2;");
+        due("a smaller one", smaller.lay(), 4);
+        smaller.step(24);
+        due("a smaller one: only its houses know", smaller.news(0, 3), 4);
+        due("a smaller one: by the gossip, too", smaller.news(1, 3), 4);
+        due("a smaller one: houses that know", smaller.count(5), 4);
         NewsDraughts one = laid("g1,1;h0,0,0;n0,1,0;n1,1,0;");
         due("one house knows two", one.house(0, 2), 3);
         due("one house", one.step(24), 24);
@@ -367,6 +388,14 @@ public final class PromisesTest {
         blownTo("g2,4;n0,1,3;w3;", 0b10001000);
         blownTo("g2,4;n0,1,7;w1;", 0b10001000);
         blownTo("g4,4;n0,1,15;w0;", 0b1100100000000000);
+        String gossip = "g3,3;h4,1,0;n0,3,4;";
+        blownTo(gossip, 0b010111010);
+        blownTo(gossip + "w1;", 0b000010010);
+        blownTo(gossip + "w2;", 0b000110000);
+        blownTo(gossip + "w3;", 0b010010000);
+        blownTo(gossip + "w4;", 0b000011000);
+        blownTo("g3,3;h5,1,0;n0,3,5;w2;", 0b100000);
+        blownTo("g3,3;h6,1,0;n0,3,6;w4;", 0b1000000);
         blownTo("g4,1;n0,1,1;w0;", 0b0111);
         blownTo("g4,1;n0,1,1;w2;", 0b0010);
         blownTo("g4,1;n0,1,1;w4;", 0b0010);
@@ -544,11 +573,27 @@ public final class PromisesTest {
         due("when: 47", near.when(3, 0), 47);
         due("behind 46", near.behind(46, 3), 0);
         due("behind 47", near.behind(47, 3), 1);
-        // up at the steps 8, 16, 24, 32, .. with right ahead of it at 7, 15, ..: the sixth behind 48
-        NewsDraughts at48 = laid("g4,4;h8,0,0;h9,0,0;h10,0,0;h4,0,0;h5,0,0;h6,0,0;h0,0,0;h1,0,0;h2,0,0;n0,1,12;w3;w3;w3;w3;w3;w3;w2;w1;");
-        due("when: 48th at most", at48.when(3, 0), 40);
-        at48.open(13, 0);
-        due("when: stuffed", at48.when(3, 0), NONE);
+        // right at the steps 7, 15, 23, then up at 24, 32, 40
+        NewsDraughts right = laid("g4,4;h8,0,0;h9,0,0;h10,0,0;h4,0,0;h5,0,0;h6,0,0;h0,0,0;h1,0,0;h2,0,0;n0,1,12;w3;w3;w3;w3;w3;w3;w2;w1;");
+        due("when: 40", right.when(3, 0), 40);
+        right.open(13, 0);
+        due("when: stuffed", right.when(3, 0), NONE);
+        // along the first row and back along the third, one house in 8 steps: the sixth at 48, the seventh too late
+        NewsDraughts end = laid("g3,4;h4,0,0;h5,0,0;h6,0,0;n0,1,0;w1;w1;w1;w1;w1;w1;w1;w0;");
+        due("when: 48", end.when(10, 0), 48);
+        due("when: 56 is too late", end.when(9, 0), NONE);
+        due("behind 47 not yet", end.behind(47, 10), 0);
+        due("behind 48 just so", end.behind(48, 10), 1);
+        due("last: at 48", end.last(0, 0), 10);
+        due("last: at 48, when", end.last(0, 1), 48);
+        due("cut: too late anyway", end.cut(9, 0, 0), 0);
+        due("cut: at 48", end.cut(10, 0, 1), 2);
+        due("bears: too late anyway", end.bears(9, 0), 6);
+        due("bears: at 48", end.bears(10, 0), 0);
+        end.step(1);
+        due("when: one step later", end.when(9, 0), NONE);
+        end.step(7);
+        due("when: eight steps later", end.when(9, 0), 48);
     }
 
     private static void last() {
@@ -566,6 +611,7 @@ public final class PromisesTest {
         due("last: from now on", row.last(0, 1), 1);
         row.step(1);
         due("last: all know", row.last(0, 0), NONE);
+        due("last: house 0", laid("g1,2;n0,1,1;").last(0, 0), 0);
         NewsDraughts square = laid("g3,3;n0,1,4;");
         due("last: of several the highest", square.last(0, 0), 8);
         due("last: of several, when", square.last(0, 1), 2);
@@ -635,6 +681,9 @@ public final class PromisesTest {
     }
 
     private static void openingsOrder() {
+        NewsDraughts middle = laid("g1,3;n0,1,1;");
+        due("order: house 0 and 2", middle.openings(0, 1, 0, 5, 1), 0);
+        due("order: house 0 and 2, second", middle.openings(0, 1, 0, 5, 2), 20);
         // 0 and 3 know; 1 and 2 shall not: both have to be stuffed, each by 0 or by 1 as heavy as it is
         NewsDraughts row = laid("g1,4;n0,2,0;n0,1,0;");
         row.tell(3, 0);
@@ -645,6 +694,13 @@ public final class PromisesTest {
         NewsDraughts idle = laid("g1,3;h1,0,0;n0,3,0;w2;");
         due("order: one house is fewer", idle.openings(0, 1, 2, 0, 0), 1);
         due("order: by 3", idle.openings(0, 1, 2, 0, 1), 13);
+        NewsDraughts sides = laid("g1,3;h0,1,0;h1,0,0;h2,0,0;n0,3,0;");
+        due("order: from a gossip by 2", sides.openings(0, 1, 2, 0, 1), 12);
+        due("order: from a gossip, then a talker", sides.openings(0, 2, 4, 0, 1), 12);
+        due("order: from a gossip, then a talker by 3", sides.openings(0, 2, 4, 0, 2), 23);
+        NewsDraughts deaf = laid("g1,2;h0,1,0;h1,2,0;n0,4,0;");
+        due("order: a deaf one by 4", deaf.openings(0, 1, 2, 0, 1), 14);
+        due("order: a deaf one by 5", laid("g1,2;h1,2,0;n0,4,0;").openings(0, 1, 2, 0, 1), 15);
         // 1 shall know and 3 shall not: 1 open by 3 or more, 2 shut or 3 shut, the lower one first
         NewsDraughts gate = laid("g1,4;h2,0,6;h3,0,6;n0,3,0;w2;");
         due("order: know and not", gate.openings(0, 3, 2, 8, 0), 2);
@@ -703,6 +759,11 @@ public final class PromisesTest {
         NewsDraughts light = laid("g1,2;h0,1,0;n0,1,0;");
         due("bears: by gossip, light", light.bears(1, 0), 0);
         due("bears: by gossip, all", light.bears(1, 1), 6);
+        // a talker beside it and a gossip: a width counts otherwise for the two
+        NewsDraughts beside = laid("g1,3;h0,1,0;h1,0,0;n0,3,0;n0,3,2;");
+        due("bears: gossip and talker, none", beside.bears(1, 2), 1);
+        due("bears: gossip and talker, one", beside.bears(1, 3), 2);
+        due("bears: gossip and talker, both", beside.bears(1, 6), 6);
         NewsDraughts five = laid("g1,2;n0,4,0;n0,4,0;n0,4,0;n0,4,0;n0,4,0;");
         due("bears: five of 4", five.bears(0, 20), 6);
         due("bears: five of 4, less", five.bears(0, 19), NONE);
@@ -738,6 +799,9 @@ public final class PromisesTest {
         NewsDraughts both = laid("g2,2;h1,0,2;h2,0,2;h3,0,3;n0,2,0;");
         due("quarrel: two ways already", both.quarrel(3, 0, 2, 1), 16);
         due("quarrel: two ways already, knows", both.quarrel(3, 0, 2, 0), 1);
+        NewsDraughts first = laid("g1,2;h0,0,2;n0,2,1;");
+        due("quarrel: house 0", first.quarrel(0, 0, 1, 0), 1);
+        due("quarrel: house 0, which", first.quarrel(0, 0, 1, 1), 0);
         due("quarrel: the last of 16", laid("g4,4;h15,0,2;n0,2,14;").quarrel(15, 0, 1, 1), 15);
     }
 
@@ -816,6 +880,9 @@ public final class PromisesTest {
         x.see(0, 0, 0, true);
         due("blew: what is not so now", x.blew(), 0);
         x.forget();
+        x.see(1, 0, 0, false);
+        due("blew: beside it, now", x.blew(), 31);
+        x.forget();
         x.see(8, 0, 2, true);
         due("blew: then the wind that is told", x.blew(), 0b01001);
         x.forget();
@@ -886,6 +953,7 @@ public final class PromisesTest {
         NewsDraughts opened = laid("g1,2;h1,0,0;n0,4,0;n1,4,0;n2,3,1;n0,2,1;");
         due("year: opened by 5", opened.year(1, 1, 0), 2);
         due("year: three times", opened.year(1, 1, 1), 3);
+        due("year: one step, one house on", laid("g1,4;n0,1,0;w2;").year(1, 1, 1), 1);
         due("year: nothing changes", opened.house(1, 1), 0);
         due("year: who knows stays", opened.house(1, 2), 12);
         due("year: steps stay", opened.count(4), 0);

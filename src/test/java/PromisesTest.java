@@ -1,11 +1,7 @@
 /** Each promise by hand: ordinary inputs, the edges that the document names, wrong inputs. */
-public final class PromisesTest {
-    private static final int BAD = NewsDraughts.BAD, NO = NewsDraughts.NO;
-    private static final int FULL = NewsDraughts.FULL, NONE = NewsDraughts.NONE;
+public final class PromisesTest extends Trial {
     private static final int[] NOT_HOUSES_OF_12 = {-1, 12, 16, 32, Integer.MIN_VALUE, Integer.MAX_VALUE};
     private static final int[] NOT_NEWS_OF_3 = {-1, 3, 5, 32, Integer.MIN_VALUE, Integer.MAX_VALUE};
-
-    private static final Checks checks = new Checks();
 
     public static void main(String[] args) {
         newObject();
@@ -43,36 +39,6 @@ public final class PromisesTest {
         keepAndBack();
         count();
         checks.end();
-    }
-
-    private static void due(String call, long got, long want) {
-        checks.due(call, got, want);
-    }
-
-    private static NewsDraughts written(String text) {
-        NewsDraughts x = new NewsDraughts();
-        for (int i = 0; i < text.length(); i++) x.write(text.charAt(i));
-        return x;
-    }
-
-    private static NewsDraughts laid(String text) {
-        NewsDraughts x = written(text);
-        if (x.lay() < 1) due("lay of " + text, x.fault(), 1);
-        return x;
-    }
-
-    private static void rewrite(NewsDraughts x, String text) {
-        x.wipe();
-        for (int i = 0; i < text.length(); i++) x.write(text.charAt(i));
-    }
-
-    /** Who knows the news, as bits by house. */
-    private static int whoKnows(NewsDraughts x, int n) {
-        int set = 0;
-        for (int h = 0; h < x.count(0); h++) {
-            if ((x.house(h, 2) >> n & 1) == 1) set |= 1 << h;
-        }
-        return set;
     }
 
     private static void newObject() {
